@@ -52,7 +52,10 @@ public final class LettersTest {
         Checks.due("2 nothing changed", x.count(0), 2);
         x.box(1, -7, 8);
         x.box(0, -7, 8);
-        Checks.due("2 letters(4): 4096", x.letters(4), 2);
+        x.letters(3);
+        x.box(2, -7, 8);
+        x.letters(2);
+        Checks.due("2 letters(4): 4096, a side that went doesn't matter", x.letters(4), 2);
         Checks.due("2 points", x.count(2), 4096);
     }
 
