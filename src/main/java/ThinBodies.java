@@ -993,7 +993,7 @@ public final class ThinBodies {
         int least = 0;
         int firstGreatest = 0;
         int thinDirection = 0;
-        int thinSpan = 0;
+        int thinSpan = -1;
         private final int[] spots = new int[MOST_POINTS];
         private final int[] at = new int[MOST_LETTERS];
         private final int[] weights = new int[MOST_LETTERS];
@@ -1004,6 +1004,7 @@ public final class ThinBodies {
             }
             stale = false;
             inside = 0;
+            thinSpan = -1;
             size = Math.min(body.points(), MOST_POINTS);
             System.arraycopy(body.lows, 0, at, 0, MOST_LETTERS);
             for (int place = 0; place < size; place++) {
@@ -1105,9 +1106,13 @@ public final class ThinBodies {
 
         /**
          * The direction of 0 alone is the middle one, and those above it are those below it turned
-         * round, with the same spans: so the least one lies below the middle.
+         * round, with the same spans: so the least one lies below the middle. The dearest of all
+         * calls, so what was found for the same points is found no second time.
          */
         void findThin(int n) {
+            if (thinSpan >= 0) {
+                return;
+            }
             int middle = directions(n) / 2;
             thinSpan = Integer.MAX_VALUE;
             for (int direction = 0; direction < middle; direction++) {

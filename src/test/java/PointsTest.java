@@ -92,6 +92,9 @@ public final class PointsTest {
         ThinBodies flat = Checks.told("letters 4;box 2 7 7");
         Checks.due("14 -2 by letter 2", flat.thin(0), ((2 * 5 + 2) * 5) * 5 + 2);
         Checks.due("14 span", flat.thin(1), 0);
+        flat.box(2, 6, 7);
+        Checks.due("14 the body changed: -1 by letter 2", flat.thin(0), ((2 * 5 + 2) * 5 + 1) * 5 + 2);
+        Checks.due("14 span", flat.thin(1), 1);
         Checks.due("14 what 2", flat.thin(2), Checks.BEYOND);
         Checks.due("14 what -1", flat.thin(-1), Checks.BEYOND);
         Checks.read(flat, "tie 0 0 0 0 bound 1");
@@ -127,5 +130,8 @@ public final class PointsTest {
             k++;
         }
         Checks.due("16 to (3, 4)", cut.round(k), 25);
+        Checks.due("16 to the first of the box", Checks.told("letters 1;box 0 0 9;least 1 bound 1").round(1), 4);
+        Checks.due("16 to the last of the box", Checks.told("letters 1;box 0 0 9;row 1 bound 8").round(7), 4);
+        Checks.due("16 all round", Checks.told("letters 3;tie 1 1 1").round(0), 1);
     }
 }

@@ -87,7 +87,8 @@ public final class TextTest {
 
     private static void faults() {
         String[] texts = {"^", "  ^", "^;", "^-", "^7", "^bounds 1", "^boxbox", "^bound 3", "^within 3", "^Letters 2", "^\t",
-            "^letter 2", "^letterss 2", "^rows 1 2", "^ro 1 2",
+            "^letter 2", "^letterss 2", "^rows 1 2", "^ro 1 2", "^rowz 1 2", "^zow 1 2", "^aoxa", "^aox 0 1 2", "^rowa 1 2", "row 1 2^`",
+            "row 1 2^{", "row 1 2^/", "row 1 2^:",
             "letters^", "letters  ^", "letters ^-2", "letters ^;", "letters ^x", "letters 2 ^3", "letters 2 ^-", "letters 2;^",
             "letters 2;  ^", "letters 2;^;", "letters 2 ^letters 2", "letters 2 ^bound 2", "letters 2^.", "letters ^two",
             "box^", "box 1^", "box 1 2^", "box 1 -^", "box 1 -2 -^", "box ^-0 1 2", "box 0 -^-1 2", "box 0 1 2 ^3", "box 0 ^; 2",
@@ -126,6 +127,7 @@ public final class TextTest {
         Checks.due("37 rows", x.count(1), 7);
         Checks.due("37 an 8th row", Checks.read(x, "off 0 0"), 1);
         Checks.due("37 4096", Checks.read(x, "letters 4;box 0 0 7;box 1 0 7;box 2 0 7;box 3 0 7"), 5);
+        Checks.due("37 4096 by letters", Checks.read(new ThinBodies(), "box 0 -7 8;box 1 -7 8;letters 4"), 3);
         Checks.due("37 a lesser side makes room", Checks.read(x, "box 0 0 0;box 1 -9 9"), 2);
     }
 

@@ -29,6 +29,15 @@ public final class TreeTest {
         Checks.due("17 dead at once", x.tree(1), 0);
         Checks.due("17 dead at once", x.tree(2), 1);
         Checks.due("17 dead at once", x.tree(3), 0);
+        Checks.due("17 a new object's", new ThinBodies().tree(0), 1);
+        Checks.due("17 a new object's", new ThinBodies().tree(3), 1);
+        ThinBodies points = Checks.told("letters 4;box 0 0 7;box 1 0 7;box 2 0 7;box 3 0 7;comb 1 1 1 1 within 2");
+        Checks.due("17 each point a leaf", points.tree(0), 8191);
+        Checks.due("17 half are dead", points.tree(2), 2048);
+        Checks.due("17 half are whole", points.tree(3), 2048);
+        Checks.due("18 the last leaf", points.leaf(4095, 0), 1);
+        Checks.due("19 the last leaf", points.side(4095, 3, 0), 7);
+        Checks.due("18 no more leaves", points.leaf(4096, 0), Checks.NONE);
         ThinBodies deep = Checks.told("letters 4;box 0 -4 4;box 1 -4 4;box 2 -4 4;box 3 -2 2;tie 1 1 1 1 bound -14");
         Checks.due("17 the deepest that can be", deep.tree(1), 15);
         Checks.due("17 the first leaf is the point", deep.leaf(0, 1), 1);
