@@ -28,6 +28,8 @@ public final class ThinBodies {
     private static final int SHEETS = 4;
     private static final int MOST_NUMBERS = 40;
     private static final int MOST_IN_POINT = 999;
+    /** More than any sum, span or square comes to. */
+    private static final int VERY_MANY = 1000000000;
 
     private static final int ROW = 0;
     private static final int TIE = 1;
@@ -194,7 +196,7 @@ public final class ThinBodies {
         if (cloud.inside == 0) {
             return finding(NONE);
         }
-        cloud.sweep(direction, body.n, Integer.MAX_VALUE);
+        cloud.sweep(direction, body.n, VERY_MANY);
         if (what == 0) {
             return cloud.greatest;
         }
@@ -1114,7 +1116,7 @@ public final class ThinBodies {
                 return;
             }
             int middle = directions(n) / 2;
-            thinSpan = Integer.MAX_VALUE;
+            thinSpan = VERY_MANY;
             for (int direction = 0; direction < middle; direction++) {
                 sweep(direction, n, thinSpan);
                 if (greatest - least < thinSpan) {
@@ -1136,7 +1138,7 @@ public final class ThinBodies {
 
         /** The nearest point outside the box is straight across one of its sides. */
         int squareToSides(int place, Body body) {
-            int nearest = Integer.MAX_VALUE;
+            int nearest = VERY_MANY;
             for (int i = 0; i < body.n; i++) {
                 int below = letterAt(place, i) - body.lows[i] + 1;
                 int above = body.highs[i] - letterAt(place, i) + 1;
@@ -1147,7 +1149,7 @@ public final class ThinBodies {
         }
 
         int squareToBroken(int place, int n) {
-            int nearest = Integer.MAX_VALUE;
+            int nearest = VERY_MANY;
             for (int other = 0; other < size; other++) {
                 if (!isIn(other)) {
                     nearest = Math.min(nearest, squareBetween(place, other, n));
@@ -1441,7 +1443,7 @@ public final class ThinBodies {
 
         /** Finds the shortest vector; the form must stand. */
         void findShort(Body body) {
-            shortSquare = Integer.MAX_VALUE;
+            shortSquare = VERY_MANY;
             for (int v = 0; v < n; v++) {
                 int square = 0;
                 for (int i = 0; i < n; i++) {
@@ -1528,50 +1530,36 @@ public final class ThinBodies {
             return -1 - first;
         }
 
+        /** A number that is too great stays just above the greatest, however many digits it has. */
         private void nextToken() {
             first = behind;
             while (first < length && bytes[first] == ' ') {
                 first++;
             }
-            behind = first;
-            if (first >= length) {
-                sort = END;
-            } else if (isLetter(bytes[first])) {
-                readWord();
-            } else if (isDigit(bytes[first])) {
-                readNumber();
-            } else {
-                sort = sortOfSign(bytes[first]);
-                behind++;
-            }
-        }
-
-        private void readWord() {
-            sort = WORD;
-            while (behind < length && isLetter(bytes[behind])) {
-                behind++;
-            }
-        }
-
-        /** A number that is too great stays just above the greatest, however many digits it has. */
-        private void readNumber() {
-            sort = NUMBER;
+            sort = sortAt(first);
             value = 0;
-            while (behind < length && isDigit(bytes[behind])) {
-                value = Math.min(value * 10 + bytes[behind] - '0', MOST_NUMBER + 1);
+            behind = first;
+            int most = sort == WORD || sort == NUMBER ? length : Math.min(first + 1, length);
+            while (behind < most && sortAt(behind) == sort) {
+                if (sort == NUMBER) {
+                    value = Math.min(value * 10 + bytes[behind] - '0', MOST_NUMBER + 1);
+                }
                 behind++;
             }
         }
 
-        private static boolean isLetter(byte b) {
-            return b >= 'a' && b <= 'z';
-        }
-
-        private static boolean isDigit(byte b) {
-            return b >= '0' && b <= '9';
-        }
-
-        private static int sortOfSign(byte b) {
+        /** The sort of token that a byte begins, or is a part of. */
+        private int sortAt(int place) {
+            if (place < 0 || place >= length) {
+                return END;
+            }
+            byte b = bytes[place];
+            if (b >= 'a' && b <= 'z') {
+                return WORD;
+            }
+            if (b >= '0' && b <= '9') {
+                return NUMBER;
+            }
             if (b == ';') {
                 return SEMICOLON;
             }
