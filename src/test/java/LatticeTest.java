@@ -9,6 +9,13 @@ public final class LatticeTest {
         shortest();
         common();
         lies();
+        baseEdges();
+        mixEdges();
+        swapEdges();
+        detEdges();
+        shortestEdges();
+        commonEdges();
+        liesEdges();
         Checks.end();
     }
 
@@ -164,5 +171,154 @@ public final class LatticeTest {
         Checks.due("34 none", x.lies(0), Checks.NONE);
         Checks.lay(x, 0, 0, -1000);
         Checks.due("34 state is asked ahead of none", x.lies(0), Checks.STATE);
+    }
+
+    private static void baseEdges() {
+        for (int n = 1; n <= 4; n++) {
+            ThinBodies x = new ThinBodies();
+            x.letters(n);
+            int last = n - 1;
+            Checks.due("26 the last of the last", x.base(last, last, -4), 1);
+            Checks.due("26 the greatest", x.base(last, last, 4), -4);
+            Checks.due("26 below the least", x.base(last, last, -5), Checks.BEYOND);
+            Checks.due("26 above the greatest", x.base(last, last, 5), Checks.BEYOND);
+            Checks.due("27 the last of the last", x.baseOf(last, last), 4);
+            Checks.due("26 no such vector", x.base(n, 0, 0), Checks.BEYOND);
+            Checks.due("26 no such letter", x.base(0, n, 0), Checks.BEYOND);
+            Checks.due("27 no such vector", x.baseOf(n, 0), Checks.BEYOND);
+            Checks.due("27 no such letter", x.baseOf(0, n), Checks.BEYOND);
+            Checks.due("31 the last of the last", x.form(last, last), 4);
+            Checks.due("31 no such vector", x.form(n, 0), Checks.BEYOND);
+            Checks.due("31 no such letter", x.form(0, n), Checks.BEYOND);
+        }
+    }
+
+    private static void mixEdges() {
+        ThinBodies one = new ThinBodies();
+        one.letters(1);
+        Checks.due("28 of one letter there is no other", one.mix(0, 0, 0), Checks.BEYOND);
+        for (int n = 2; n <= 4; n++) {
+            int last = n - 1;
+            for (int sign = -1; sign <= 1; sign += 2) {
+                ThinBodies x = new ThinBodies();
+                x.letters(n);
+                x.base(0, last, sign);
+                Checks.due("28 3 times to the last", x.mix(last, 0, 3 * sign), 1);
+                Checks.due("28 4 in the last letter", x.baseOf(0, last), 4 * sign);
+                Checks.due("28 the one that is mixed stays", x.baseOf(last, last), 1);
+                Checks.due("28 one more would be too much", x.mix(last, 0, sign), Checks.STATE);
+                Checks.due("28 0 times is fine", x.mix(last, 0, 0), 1);
+                Checks.due("28 one less", x.mix(last, 0, -sign), 1);
+                Checks.due("28 3 in the last letter", x.baseOf(0, last), 3 * sign);
+                Checks.due("28 the first letter stays", x.baseOf(0, 0), 1);
+                Checks.due("28 no such vector", x.mix(n, 0, 1), Checks.BEYOND);
+                Checks.due("28 no such other", x.mix(0, n, 1), Checks.BEYOND);
+                x.base(0, 0, 4);
+                x.base(0, last, 0);
+                Checks.due("28 12 in the first letter", x.mix(0, last, 3), Checks.STATE);
+                Checks.due("28 nothing of it came", x.baseOf(last, 0), 0);
+            }
+        }
+    }
+
+    private static void swapEdges() {
+        ThinBodies one = new ThinBodies();
+        one.letters(1);
+        Checks.due("29 of one letter there is no other", one.swap(0, 0), Checks.BEYOND);
+        Checks.due("29 nor vector 1", one.swap(0, 1), Checks.BEYOND);
+        ThinBodies x = with(4, 1, 2, 3, 4, -1, -2, -3, -4, 0, 1, 0, 1, 4, 3, 2, 1);
+        Checks.due("29 the first and the last", x.swap(0, 3), 1);
+        dueVectors("29 changed", x, 4, 4, 3, 2, 1, -1, -2, -3, -4, 0, 1, 0, 1, 1, 2, 3, 4);
+        Checks.due("29 and back", x.swap(3, 0), 1);
+        dueVectors("29 as they were", x, 4, 1, 2, 3, 4, -1, -2, -3, -4, 0, 1, 0, 1, 4, 3, 2, 1);
+        Checks.due("29 vector 4", x.swap(4, 0), Checks.BEYOND);
+        Checks.due("29 other 4", x.swap(0, 4), Checks.BEYOND);
+    }
+
+    private static void detEdges() {
+        for (int v = -4; v <= 4; v++) {
+            Checks.due("30 of one letter", with(1, v).det(), v);
+        }
+        Checks.due("30 units", new ThinBodies().det(), 1);
+        Checks.due("30 all 0", with(2, 0, 0, 0, 0).det(), 0);
+        Checks.due("30 all 0", with(4, new int[16]).det(), 0);
+        Checks.due("30 the least", with(4, 4, -4, 4, -4, 4, 4, 4, 4, 4, 4, -4, -4, 4, -4, -4, 4).det(), -4096);
+        Checks.due("30 the greatest of three", with(3, 4, 4, 4, 4, -4, 4, -4, 4, 4).det(), -256);
+        Checks.due("30 0 in all the first letters", with(3, 0, 1, 2, 0, 3, 4, 0, -4, 1).det(), 0);
+        Checks.due("30 0 in the last", with(3, 1, 0, 0, 0, 1, 0, 1, 1, 0).det(), 0);
+        Checks.due("30 turned", with(3, 0, 0, 2, 0, 3, 0, 4, 0, 0).det(), -24);
+        Checks.due("30 in a ring", with(4, 0, 1, 0, 0, 0, 0, 1, 0, 0, 0, 0, 1, 1, 0, 0, 0).det(), -1);
+    }
+
+    private static void shortestEdges() {
+        for (int n = 1; n <= 4; n++) {
+            ThinBodies x = new ThinBodies();
+            x.letters(n);
+            Checks.due("32 letter -1: squares", x.shortest(-1), 1);
+            Checks.due("32 letter -2", x.shortest(-2), Checks.BEYOND);
+            Checks.due("32 letter 0", x.shortest(0), 1);
+            Checks.due("32 no such letter", x.shortest(n), Checks.BEYOND);
+            for (int i = 1; i < n; i++) {
+                Checks.due("32 else 0", x.shortest(i), 0);
+            }
+            x.base(0, 0, 0);
+            Checks.due("32 determinant 0", x.shortest(n - 1), Checks.NONE);
+        }
+    }
+
+    private static void commonEdges() {
+        ThinBodies x = Checks.told("letters 4;box 0 0 7;box 1 0 7;box 2 0 7;box 3 0 7");
+        Checks.due("33 all", x.common(), 4096);
+        for (int i = 0; i < 4; i++) {
+            x.base(i, i, i % 2 == 0 ? 4 : -4);
+        }
+        Checks.due("33 0 and 4 in each", x.common(), 16);
+        x.box(3, 1, 3);
+        Checks.due("33 none of 1 to 3", x.common(), 0);
+        x.box(3, -8, -4);
+        Checks.due("33 -8 and -4", x.common(), 16);
+        Checks.read(x, "tie 1 1 1 1 bound -8");
+        // (0, 0, 0, -8) alone
+        Checks.due("33 that are in, too", x.common(), 1);
+        x.change(0, 1, -9);
+        Checks.due("33 none of those that are in", x.common(), 0);
+        ThinBodies y = with(2, 1, 2, 0, 3);
+        // (0, 0), (0, 3), (1, 2), (2, 1), (3, 0), (3, 3)
+        Checks.due("33 y is 2x but for threes", y.common(), 6);
+        y.box(0, -2, -1);
+        Checks.due("33 (-2, 2), (-1, 1)", y.common(), 2);
+    }
+
+    private static void liesEdges() {
+        ThinBodies x = with(2, 1, 2, 0, 3);
+        Checks.lay(x, 3, 0, 0);
+        Checks.due("34 sheet 3: 0 alone lies in each", x.lies(3), 1);
+        int[][] points = {{1, 2}, {-1, -2}, {0, 3}, {0, -3}, {1, -1}, {999, 999}, {-999, 999}, {998, 1}, {999, 0}, {0, 999}};
+        for (int[] at : points) {
+            Checks.lay(x, 0, at[0], at[1]);
+            Checks.due("34 (" + at[0] + ", " + at[1] + ") lies", x.lies(0), 1);
+        }
+        int[][] others = {{0, 1}, {0, 2}, {0, -1}, {1, 0}, {1, 1}, {-1, 2}, {999, 998}, {-999, -998}, {998, 0}};
+        for (int[] at : others) {
+            Checks.lay(x, 0, at[0], at[1]);
+            Checks.due("34 (" + at[0] + ", " + at[1] + ") doesn't", x.lies(0), 0);
+        }
+        Checks.lay(x, 0, 1000, 2);
+        Checks.due("34 1000", x.lies(0), Checks.STATE);
+        Checks.lay(x, 0, 3, -1000);
+        Checks.due("34 -1000", x.lies(0), Checks.STATE);
+        Checks.lay(x, 0, 1L << 32, 0);
+        Checks.due("34 much more than an int", x.lies(0), Checks.STATE);
+        Checks.lay(x, 0, 0, 0, 1000);
+        Checks.due("34 what is behind the point doesn't matter", x.lies(0), 1);
+        ThinBodies four = with(4, 4, 0, 0, 1, 0, 4, 0, 1, 0, 0, 4, 1, 0, 0, 0, 4);
+        Checks.lay(four, 0, 4, -8, 12, 2);
+        Checks.due("34 1 less 2 and 3 more is 2", four.lies(0), 1);
+        Checks.lay(four, 0, 4, -8, 12, 1);
+        Checks.due("34 not 1", four.lies(0), 0);
+        Checks.lay(four, 0, 4, -8, 11, 2);
+        Checks.due("34 11 is no multiple", four.lies(0), 0);
+        Checks.lay(four, 0, 4, -8, 12);
+        Checks.due("34 3 numbers for 4 letters", four.lies(0), Checks.SIZE);
     }
 }

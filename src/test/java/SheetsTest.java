@@ -5,6 +5,10 @@ public final class SheetsTest {
         write();
         copy();
         lays();
+        sheetEdges();
+        writeEdges();
+        copyEdges();
+        laysEdges();
         Checks.end();
     }
 
@@ -115,5 +119,134 @@ public final class SheetsTest {
         Checks.due("41 laid", x.write(1, 1, 0), 2);
         x.sheet(1, 16, 0);
         Checks.due("41 none at all", x.lays(1, 2), 0);
+    }
+
+    private static void sheetEdges() {
+        for (int s = 0; s < 4; s++) {
+            ThinBodies x = new ThinBodies();
+            Checks.due("38 missing at first", x.judge(s), Checks.MISSING);
+            for (int bits : new int[] {8, 16, 64}) {
+                Checks.due("38 no number", x.sheet(s, bits, 0), 0);
+                Checks.due("38 it is there", x.lays(s, 0), 0);
+                Checks.due("38 one number", x.sheet(s, bits, 1), 1);
+                Checks.due("38 forty", x.sheet(s, bits, 40), 40);
+                Checks.due("38 the last", x.write(s, 39, 7), 0);
+                Checks.due("38 the first", x.write(s, 0, 7), 0);
+                Checks.due("38 forty anew", x.sheet(s, bits, 40), 40);
+                for (int i = 0; i < 40; i++) {
+                    Checks.due("38 all 0", x.write(s, i, 5), 0);
+                }
+                x.sheet(s, bits, 2);
+                Checks.due("38 not so many any more", x.write(s, 2, 1), Checks.BEYOND);
+                x.sheet(s, bits, 3);
+                Checks.due("38 what was there once doesn't come back", x.write(s, 2, 1), 0);
+            }
+            Checks.due("38 others are still missing", x.judge((s + 1) % 4), Checks.MISSING);
+            Checks.due("38 away", x.sheet(s, 0, 7), 0);
+            Checks.due("38 missing again", x.judge(s), Checks.MISSING);
+            Checks.due("38 away once more, n least", x.sheet(s, 0, Integer.MIN_VALUE), 0);
+            Checks.due("38 away once more, n most", x.sheet(s, 0, Integer.MAX_VALUE), 0);
+        }
+        ThinBodies x = new ThinBodies();
+        x.sheet(0, 8, 4);
+        x.sheet(0, 0, 4);
+        Checks.due("38 a sheet that is missing has no numbers", x.write(0, 0, 1), Checks.MISSING);
+        x.sheet(0, 64, 1);
+        x.write(0, 0, 300);
+        Checks.due("38 other bits now", x.write(0, 0, 1), 300);
+    }
+
+    private static void writeEdges() {
+        ThinBodies x = new ThinBodies();
+        x.sheet(3, 64, 40);
+        Checks.due("39 the first", x.write(3, 0, 1), 0);
+        Checks.due("39 the last", x.write(3, 39, 2), 0);
+        Checks.due("39 behind the last", x.write(3, 40, 3), Checks.BEYOND);
+        Checks.due("39 ahead of the first", x.write(3, -1, 3), Checks.BEYOND);
+        Checks.due("39 the first", x.write(3, 0, 0), 1);
+        Checks.due("39 the last", x.write(3, 39, 0), 2);
+        Checks.due("39 beside the last", x.write(3, 38, 0), 0);
+        x.sheet(2, 8, 1);
+        long[][] of8 = {{-128, -128}, {-129, 127}, {127, 127}, {128, -128}, {-1, -1}, {Long.MIN_VALUE, 0}, {Long.MAX_VALUE, -1}};
+        for (long[] pair : of8) {
+            x.write(2, 0, pair[0]);
+            Checks.due("39 8 bits of " + pair[0], x.write(2, 0, 0), pair[1]);
+        }
+        x.sheet(2, 16, 1);
+        long[][] of16 = {{-32768, -32768}, {-32769, 32767}, {32767, 32767}, {32768, -32768}, {Long.MIN_VALUE, 0}, {Long.MAX_VALUE, -1}};
+        for (long[] pair : of16) {
+            x.write(2, 0, pair[0]);
+            Checks.due("39 16 bits of " + pair[0], x.write(2, 0, 0), pair[1]);
+        }
+        x.sheet(2, 64, 1);
+        for (long v : new long[] {Long.MIN_VALUE, Long.MAX_VALUE, -1000000007L, 1L << 32}) {
+            x.write(2, 0, v);
+            Checks.due("39 64 bits of " + v, x.write(2, 0, 0), v);
+        }
+        Checks.due("46 what it was is no finding", x.status(-1), 2);
+    }
+
+    private static void dueNumbers(String what, ThinBodies x, int s, int... due) {
+        for (int i = 0; i < due.length; i++) {
+            Checks.due(what + ": number " + i, x.write(s, i, due[i]), due[i]);
+        }
+    }
+
+    private static void copyEdges() {
+        ThinBodies x = new ThinBodies();
+        Checks.lay(x, 0, 1, 2, 3);
+        Checks.lay(x, 3, 4, 5, 6, 7);
+        Checks.due("40 all of it", x.copy(0, 0, 3, 1, 3), 3);
+        dueNumbers("40 all of it", x, 3, 4, 1, 2, 3);
+        Checks.due("40 one more than it has", x.copy(0, 0, 3, 0, 4), Checks.BEYOND);
+        Checks.due("40 one more than there is room for", x.copy(0, 0, 3, 2, 3), Checks.BEYOND);
+        Checks.due("40 the last one to the last", x.copy(0, 2, 3, 3, 1), 1);
+        Checks.due("40 behind the last", x.copy(0, 3, 3, 0, 1), Checks.BEYOND);
+        Checks.due("40 to behind the last", x.copy(0, 0, 3, 4, 1), Checks.BEYOND);
+        dueNumbers("40 nothing changed", x, 3, 4, 1, 2, 3);
+        dueNumbers("40 what is copied stays", x, 0, 1, 2, 3);
+        Checks.due("40 none, from the end to the end", x.copy(0, 3, 3, 4, 0), 0);
+        Checks.due("40 none, from behind the end", x.copy(0, 4, 3, 4, 0), Checks.BEYOND);
+        Checks.due("40 none, to behind the end", x.copy(0, 3, 3, 5, 0), Checks.BEYOND);
+        Checks.due("40 none, from -1", x.copy(0, -1, 3, 0, 0), Checks.BEYOND);
+        Checks.due("40 onto itself, the same place", x.copy(3, 0, 3, 0, 4), 4);
+        dueNumbers("40 as it was", x, 3, 4, 1, 2, 3);
+        x.sheet(1, 64, 0);
+        Checks.due("40 none of none", x.copy(1, 0, 1, 0, 0), 0);
+        Checks.due("40 one of none", x.copy(1, 0, 0, 0, 1), Checks.BEYOND);
+        Checks.due("40 one to none", x.copy(0, 0, 1, 0, 1), Checks.BEYOND);
+        for (int bits : new int[] {8, 16, 64}) {
+            x.sheet(1, bits, 40);
+            x.sheet(2, bits, 40);
+            for (int i = 0; i < 40; i++) {
+                x.write(1, i, -i);
+            }
+            Checks.due("40 forty", x.copy(1, 0, 2, 0, 40), 40);
+            Checks.due("40 41", x.copy(1, 0, 2, 0, 41), Checks.BEYOND);
+            Checks.due("40 the first", x.write(2, 0, 0), 0);
+            Checks.due("40 the last", x.write(2, 39, 0), -39);
+            Checks.due("40 39 up by one", x.copy(1, 0, 1, 1, 39), 39);
+            Checks.due("40 as they were", x.write(1, 39, 0), -38);
+            Checks.due("40 as they were", x.write(1, 1, 0), 0);
+        }
+    }
+
+    private static void laysEdges() {
+        ThinBodies x = Checks.told("letters 4;box 0 -9 -9;box 1 9 9;box 2 -1 -1;box 3 0 1");
+        for (int size = 0; size <= 5; size++) {
+            x.sheet(3, 8, size);
+            int laid = Math.min(size, 4);
+            Checks.due("41 " + size + " numbers", x.lays(3, 1), laid);
+            int[] due = {-9, 9, -1, 1, 0};
+            for (int i = 0; i < size; i++) {
+                Checks.due("41 number " + i, x.write(3, i, 0), due[i]);
+            }
+        }
+        x.sheet(3, 64, 0);
+        Checks.due("41 no point, and no number", x.lays(3, 2), Checks.NONE);
+        Checks.due("41 the last point", x.lays(3, 1), 0);
+        Checks.read(x, "row 0 0 0 0 bound -1");
+        Checks.due("41 none is in", x.lays(3, 0), Checks.NONE);
+        Checks.due("41 missing", x.lays(0, 0), Checks.MISSING);
     }
 }
