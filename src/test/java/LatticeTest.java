@@ -118,6 +118,9 @@ public final class LatticeTest {
         dueForm("31 two", with(2, 4, 1, 2, 3), 2, 2, 3, 0, 5);
         dueForm("31 three", with(3, 3, 1, 0, 0, 4, -2, 1, 0, 3), 3, 1, 0, 3, 0, 1, 25, 0, 0, 34);
         dueForm("31 below 0", with(2, -2, -3, 0, -4), 2, 2, 3, 0, 4);
+        dueForm("31 those ahead of a 1 have 0", with(2, 2, 3, 0, 1), 2, 2, 0, 0, 1);
+        dueForm("31 those ahead have that less 1 at most", with(2, 2, 4, 0, 4), 2, 2, 0, 0, 4);
+        dueForm("31 and 0 at least", with(2, 2, -1, 0, 4), 2, 2, 3, 0, 4);
         ThinBodies x = with(2, 1, 2, 2, 4);
         Checks.due("31 none", x.form(0, 0), Checks.NONE);
         Checks.due("31 vector 2", x.form(2, 0), Checks.BEYOND);
@@ -131,6 +134,8 @@ public final class LatticeTest {
         dueShort("32 4 and -4", with(1, -4), 16, 4);
         dueShort("32 (3, 4) less (2, 4)", with(2, 3, 4, 2, 4), 1, 1, 0);
         dueShort("32 (2, 1) or (1, -2), (2, -1) isn't", with(2, 2, 1, -1, 2), 5, 2, 1);
+        // all are (a, a + 2b, b + 4c): with (1, -1) ahead the last can't be 0
+        dueShort("32 (1, 1, 0), as (1, -1, 0) isn't", with(3, 1, 1, 0, 0, 2, 1, 0, 0, 4), 2, 1, 1, 0);
         dueShort("32 (0, 2) or (0, -2)", with(2, 4, 0, 0, -2), 4, 0, 2);
         dueShort("32 the longest shortest", with(4, 4, 4, 4, 4, 4, -4, 4, -4, 4, 4, -4, -4, 4, -4, -4, 4), 64, 4, 4, 4, 4);
         ThinBodies x = with(2, 1, 2, 2, 4);

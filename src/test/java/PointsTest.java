@@ -315,5 +315,19 @@ public final class PointsTest {
         Checks.due("16 to (2, 2)", z.round(middle), 8);
         z.change(0, 1, -21);
         Checks.due("16 to (-2, -2), three ahead of it aren't in", z.round(middle - 3), 8);
+        roundAmongEightRows();
+    }
+
+    /** Four letters and eight rows, all broken in the nearest: how many rows they are doesn't matter. */
+    private static void roundAmongEightRows() {
+        ThinBodies x = Checks.told("letters 4;box 0 0 4;box 1 0 4;box 2 0 4;box 3 0 4");
+        for (int r = 0; r < 8; r++) {
+            x.row(0, 2, 1);
+            x.change(r, 3, 1);
+        }
+        int middle = 2 * 125 + 62;
+        Checks.due("16 letter 0 of it", x.point(middle, 0), 2);
+        Checks.due("16 letter 3 of it", x.point(middle, 3), 2);
+        Checks.due("16 to (3, 2, 2, 2)", x.round(middle), 1);
     }
 }
